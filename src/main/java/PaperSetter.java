@@ -40,6 +40,8 @@ public final class PaperSetter {
     private static final int ALL_BOUNDS = (1 << BOUNDS) - 1;
 
     private static final int LOOK_SUM_0 = 10;
+    /** Above every SPREAD and every cost. */
+    private static final int ABOVE_ALL = 1000000;
     private static final int[] NOTHING_MORE = {0, 0, 0, 0, 0, 0, 0, 0, 0, 0};
 
     private final Bank bank;
@@ -489,7 +491,7 @@ public final class PaperSetter {
     /** THE BEST. */
     private static final class BestSearch extends Search {
         private int bestSet = NO_PAPER;
-        private int bestSpread = Integer.MAX_VALUE;
+        private int bestSpread = ABOVE_ALL;
         private int bestCount = 0;
 
         BestSearch(Units units, Limits limits) {
@@ -498,7 +500,7 @@ public final class PaperSetter {
 
         int findBest() {
             bestSet = NO_PAPER;
-            bestSpread = Integer.MAX_VALUE;
+            bestSpread = ABOVE_ALL;
             bestCount = 0;
             walkAll();
             return bestSet;
@@ -573,7 +575,7 @@ public final class PaperSetter {
         private final int[] minutes = new int[1 << MOST_FOR_VERSIONS];
         private final int[] marks = new int[1 << MOST_FOR_VERSIONS];
         private final int[] spreads = new int[1 << MOST_FOR_VERSIONS];
-        private int bestSpread = Integer.MAX_VALUE;
+        private int bestSpread = ABOVE_ALL;
         private int bestCount = 0;
         int bestFirst = 0;
         int bestSecond = 0;
@@ -584,7 +586,7 @@ public final class PaperSetter {
 
         /** The two are bestFirst and bestSecond then; both 0 if there are none. */
         void findTwo(int d) {
-            bestSpread = Integer.MAX_VALUE;
+            bestSpread = ABOVE_ALL;
             bestCount = 0;
             bestFirst = 0;
             bestSecond = 0;
@@ -615,7 +617,8 @@ public final class PaperSetter {
             int earlier = lowestOf(first) - 1;
             int free = allUnits & ~first & ~earlier;
             for (int second = free; second > 0; second = (second - 1) & free) {
-                if (papers[second] != 0 && areAlike(first, second, d) && isBetter(first, second)) {
+                boolean isNear = papers[second] != 0 && spreads[first] + spreads[second] <= bestSpread;
+                if (isNear && areAlike(first, second, d) && isBetter(first, second)) {
                     bestSpread = spreads[first] + spreads[second];
                     bestCount = countOfBoth(first, second);
                     bestFirst = papers[first];
@@ -713,11 +716,14 @@ public final class PaperSetter {
             }
         }
 
+        /** Nothing to stand costs nothing: those rows are 0 from the beginning, and stay so. */
         private void reckonRestCosts() {
-            for (int rest = 0; rest < (1 << size); rest++) {
+            for (int rest = 1; rest < (1 << size); rest++) {
                 for (int unit = 0; unit < size; unit++) {
-                    restCosts[rest * MOST_ORDERED_UNITS + unit] =
-                            rest == 0 ? 0 : costBehind(unit, rest, cheapestBehind(unit, rest));
+                    if (!contains(rest, unit)) {
+                        int next = cheapestBehind(unit, rest);
+                        restCosts[rest * MOST_ORDERED_UNITS + unit] = costBehind(unit, rest, next);
+                    }
                 }
             }
         }
@@ -732,11 +738,12 @@ public final class PaperSetter {
         /** UNITS stand by their first QUESTIONS, so the lowest of the cheapest makes the least ORDER. */
         private int cheapestBehind(int unit, int rest) {
             int cheapest = 0;
-            int leastCost = Integer.MAX_VALUE;
+            int leastCost = ABOVE_ALL;
             for (int next = 0; next < size; next++) {
-                if (contains(rest, next) && costBehind(unit, rest, next) < leastCost) {
+                int cost = contains(rest, next) ? costBehind(unit, rest, next) : ABOVE_ALL;
+                if (cost < leastCost) {
                     cheapest = next;
-                    leastCost = costBehind(unit, rest, next);
+                    leastCost = cost;
                 }
             }
             return cheapest;

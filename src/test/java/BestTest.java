@@ -15,6 +15,7 @@ public final class BestTest {
         fewestBounds();
         leastBits();
         whyHeedsFitness();
+        allBoundsTogether();
         Check.end();
     }
 
@@ -179,5 +180,44 @@ public final class BestTest {
         x.use(1);
         x.term();
         Check.due("one of the PAPER RESTS", x.why(), 4);
+    }
+
+    /** Ten UNITS, no two of them FIT together, each of which breaks one BOUND alone. */
+    private static void allBoundsTogether() {
+        PaperSetter x = new PaperSetter();
+        int[][] bounds = {
+            {1, 2}, {10, 10}, {12, 13}, {0, 11}, {0, 11}, {0, 11}, {0, 12}, {0, 11}, {0, 11}, {0, 12},
+        };
+        // Topic, skill, minutes, marks, and the BOUND that its UNIT breaks.
+        int[][] questions = {
+            {3, 2, 3, 4, 0}, {3, 2, 11, 12, 1}, {3, 2, 10, 11, 2}, {0, 2, 10, 12, 3},
+            {1, 2, 10, 12, 4}, {2, 2, 10, 12, 5}, {3, 2, 5, 6, 6}, {3, 0, 10, 12, 7},
+            {3, 1, 10, 12, 8}, {3, 2, 5, 6, 9}, {3, 2, 3, 4, 0}, {3, 2, 4, 4, 0},
+            {3, 1, 5, 7, 6}, {0, 2, 5, 7, 9},
+        };
+        int[] unitOfBound = new int[10];
+        for (int q = 0; q < questions.length; q++) {
+            int[] f = questions[q];
+            x.question(f[0], f[1], f[2], f[3], 1);
+            unitOfBound[f[4]] |= 1 << q;
+            if (f[4] == 0 || f[4] == 6 || f[4] == 9) {
+                x.passage(q, f[4] / 3);
+            }
+        }
+        for (int a = 0; a < 10; a++) {
+            x.bound(a, bounds[a][0], bounds[a][1]);
+            for (int b = 0; b < a; b++) {
+                x.gives(a, b, true);
+            }
+        }
+        for (int b = 0; b < 10; b++) {
+            Check.due("UNIT of BOUND " + b + " is FIT", x.look(unitOfBound[b], 0), 1);
+            Check.due("UNIT of BOUND " + b + " breaks", x.look(unitOfBound[b], 3), 1 << b);
+        }
+        Check.due("all ten BOUNDS", x.why(), 1023);
+        Check.due("best() then", x.best(), NO_PAPER);
+        x.bound(9, 0, 13);
+        Check.due("BOUND 9 is wide enough for its UNIT", x.why(), 0);
+        Check.due("best() then", x.best(), unitOfBound[9]);
     }
 }
