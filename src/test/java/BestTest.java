@@ -6,6 +6,8 @@ public final class BestTest {
     public static void main(String[] args) {
         emptyBank();
         leastSpread();
+        nearestIsMetLate();
+        givenAwayBySeveral();
         fewestQuestions();
         lowestQuestion();
         lowestQuestionOfPassages();
@@ -46,6 +48,34 @@ public final class BestTest {
         Check.due("14 is above the BOUND", x.best(), 5);
         x.bound(2, 15, 1000);
         Check.due("14 is below the BOUND", x.best(), 7);
+    }
+
+    /** All three are one off; without the second one there is none that seems near until the third comes. */
+    private static void nearestIsMetLate() {
+        int[] marks = {10, 1, 9};
+        for (int topic = 0; topic < 4; topic++) {
+            PaperSetter x = new PaperSetter();
+            for (int m : marks) {
+                x.question(topic, 0, 1, m, 1);
+            }
+            x.profile(topic, 19);
+            Check.due("10 + 9 is nearer than all, TOPIC " + topic, x.best(), 0b101);
+        }
+    }
+
+    private static void givenAwayBySeveral() {
+        PaperSetter x = ofMarks(4, 5, 6);
+        x.gives(0, 2, true);
+        x.gives(1, 2, true);
+        x.profile(0, 10);
+        Check.due("neither 4 + 6 nor 5 + 6", x.best(), 0b011);
+        x.gives(0, 2, false);
+        Check.due("4 + 6, not 5 + 6", x.best(), 0b101);
+        PaperSetter y = ofMarks(4, 5, 6);
+        y.gives(2, 0, true);
+        y.gives(2, 1, true);
+        y.profile(0, 10);
+        Check.due("6 gives both away", y.best(), 0b011);
     }
 
     private static void fewestQuestions() {

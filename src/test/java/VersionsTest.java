@@ -7,6 +7,7 @@ public final class VersionsTest {
         neitherIsEmpty();
         differences();
         leastSpreads();
+        leastSpreadsTogether();
         fewestQuestions();
         greatestBits();
         greatestBitsOfPassages();
@@ -56,6 +57,20 @@ public final class VersionsTest {
         dueTwo("0 and 3 not together", x, 0, 3, 12);
     }
 
+    /** Spreads of 1 and 0 go before 4 and 4, though those are the more alike. */
+    private static void leastSpreadsTogether() {
+        PaperSetter x = new PaperSetter();
+        int[] marks = {9, 10, 6, 6};
+        for (int m : marks) {
+            x.question(0, 0, 1, m, 1);
+        }
+        x.profile(0, 10);
+        x.bound(0, 1, 1);
+        dueTwo("9 and 10, not 6 and 6", x, 1000, 1, 2);
+        x.profile(0, 6);
+        dueTwo("6 and 6", x, 1000, 4, 8);
+    }
+
     private static void fewestQuestions() {
         PaperSetter x = new PaperSetter();
         x.question(0, 0, 1, 4, 1);
@@ -64,6 +79,20 @@ public final class VersionsTest {
         x.question(0, 0, 1, 4, 1);
         x.profile(0, 4);
         dueTwo("one each, not 0 with 1 and 2", x, 1, 1, 8);
+        fewestOfLikeSpreads();
+    }
+
+    /** 4 and 4 are one off each, as 3 + 3 and 3 + 3 are. */
+    private static void fewestOfLikeSpreads() {
+        PaperSetter x = new PaperSetter();
+        int[] marks = {4, 4, 3, 3, 3, 3};
+        for (int m : marks) {
+            x.question(0, 0, m, m, 1);
+        }
+        x.profile(0, 5);
+        dueTwo("one each, not two each", x, 0, 1, 2);
+        x.bound(0, 2, 2);
+        dueTwo("two each", x, 0, 0b100100, 0b011000);
     }
 
     /** The first of 0, 1 and 2: of {0}{1}, {0}{2}, {1}{2} the first is greatest in the last. */
