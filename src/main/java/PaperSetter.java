@@ -612,7 +612,10 @@ public final class PaperSetter {
             spreads[takenUnits] = limits.leastSpread(sums, NOTHING_MORE);
         }
 
-        /** The lowest QUESTION of both is the first one's, so the second is of later UNITS alone. */
+        /**
+         * The lowest QUESTION of both is the first one's, so the second is of later UNITS alone. Each
+         * second is below the one before it, as a mask never adds: the loop comes to 0 and ends.
+         */
         private void pairWithOthers(int first, int allUnits, int d) {
             int earlier = lowestOf(first) - 1;
             int free = allUnits & ~first & ~earlier;

@@ -323,21 +323,18 @@ public final class NumberEdgesTest {
         Check.due("rests(0) in the TERM behind its USE at first", x.rests(0), 0);
     }
 
-    /** TERMS are numbered from 1; NONE: it would be above 1000. */
+    /** TERMS are numbered from 1; the last one that an object's 512 calls can come to and tell of. */
     private static void termsFromOne() {
         PaperSetter x = ofMany(1);
         Check.due("the TERM at first", x.count(2), 1);
         x.use(1);
         Check.due("a USE in the first TERM", x.told(0, 6), 1);
-        // More calls than an object is promised for: 1000 can't be met otherwise.
-        for (int t = 2; t <= 1000; t++) {
+        for (int t = 2; t <= 506; t++) {
             Check.due("term()", x.term(), t);
         }
-        Check.due("term() in TERM 1000", x.term(), NONE);
-        Check.due("term() in TERM 1000 again", x.term(), NONE);
-        Check.due("the TERM behind refusals", x.count(2), 1000);
         x.use(1);
-        Check.due("a USE in the last TERM", x.told(0, 6), 1000);
+        Check.due("a USE in a late TERM", x.told(0, 6), 506);
+        Check.due("the TERM then", x.count(2), 506);
     }
 
     private static void versionsD() {

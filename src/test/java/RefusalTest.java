@@ -46,7 +46,6 @@ public final class RefusalTest {
         }
         busy.refuseWhatIsSo();
         crowded.refuseWhatIsTooMuch();
-        refuseTerm();
         Check.end();
     }
 
@@ -343,19 +342,5 @@ public final class RefusalTest {
         changesNothing("versions(5)", x -> x.versions(5), NONE);
         changesNothing("order of nine UNITS", x -> x.order(511), NONE);
         changesNothing("order of all", x -> x.order((1 << 24) - 1), NONE);
-    }
-
-    /** Only behind more calls than an object is promised for; R tells that the TERM is as it was. */
-    private static void refuseTerm() {
-        RefusalTest late = new RefusalTest("a bank in TERM 1000", () -> {
-            PaperSetter x = busyBank();
-            while (x.count(2) < 999) {
-                x.term();
-            }
-            x.use(1);
-            x.term();
-            return x;
-        });
-        late.changesNothing("term()", PaperSetter::term, NONE);
     }
 }

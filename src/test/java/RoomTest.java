@@ -15,7 +15,7 @@ public final class RoomTest {
         long before = threads.getThreadAllocatedBytes(self);
         PaperSetter x = new PaperSetter();
         long made = threads.getThreadAllocatedBytes(self);
-        int answers = dearestCalls(x, 60);
+        int answers = dearestCalls(x, 40);
         long behind = threads.getThreadAllocatedBytes(self);
         Check.due("a new object is small", made - before <= MOST_BYTES_AN_OBJECT, true);
         Check.due("calls make nothing", behind - made <= MOST_BYTES_OF_CALLS, true);

@@ -5,6 +5,7 @@ public final class TermsTest {
     public static void main(String[] args) {
         restNumbers();
         termNumbers();
+        lastTerm();
         useSets();
         useWhileResting();
         restsByTerms();
@@ -24,17 +25,28 @@ public final class TermsTest {
 
     private static void termNumbers() {
         PaperSetter x = new PaperSetter();
-        for (int t = 2; t <= 500; t++) {
+        Check.due("the TERM of a new object", x.count(2), 1);
+        for (int t = 2; t <= 511; t++) {
             Check.due("term()", x.term(), t);
         }
-        Check.due("count(2)", x.count(2), 500);
-        // More calls than an object is promised for: the edge at 1000 can't be met otherwise.
-        for (int t = 501; t <= 1000; t++) {
-            x.term();
+        Check.due("count(2)", x.count(2), 511);
+    }
+
+    /**
+     * NONE: it would be above 1000. The only test that goes beyond the 512 calls that an object is
+     * promised for, as 1000 can't be met within them; the class keeps to this edge all the same.
+     */
+    private static void lastTerm() {
+        PaperSetter x = new PaperSetter();
+        x.question(0, 0, 1, 1, 1);
+        for (int t = 2; t <= 1000; t++) {
+            Check.due("term()", x.term(), t);
         }
-        Check.due("TERM 1000", x.count(2), 1000);
-        Check.due("term() above 1000", x.term(), NONE);
-        Check.due("TERM behind the refusal", x.count(2), 1000);
+        Check.due("term() in TERM 1000", x.term(), NONE);
+        Check.due("term() in TERM 1000 again", x.term(), NONE);
+        Check.due("the TERM behind refusals", x.count(2), 1000);
+        x.use(1);
+        Check.due("a USE in the last TERM", x.told(0, 6), 1000);
     }
 
     private static void useSets() {
