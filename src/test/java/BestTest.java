@@ -82,6 +82,11 @@ public final class BestTest {
         PaperSetter x = ofMarks(2, 2, 1, 4);
         x.profile(0, 4);
         Check.due("one of 4 goes before two of 2", x.best(), 8);
+        PaperSetter y = ofMarks(4, 2, 2);
+        y.passage(1, 0);
+        y.passage(2, 0);
+        y.profile(0, 4);
+        Check.due("one of 4 goes before a later PASSAGE of 2 and 2", y.best(), 1);
     }
 
     private static void lowestQuestion() {
